@@ -64,6 +64,11 @@ public final class PlansTest {
         hide("one at each", x, of(0, 2, 2), 1, 17);
         x.sit(1, 0, 1);
         noHide("too many", x, 0, 2, 2);
+        ChairSmells y = Check.house("11o;11o;11o", "90.;90.");
+        y.sit(1, 0, 0);
+        y.sit(1, 0, 1);
+        y.sit(1, 0, 2);
+        noHide("one too many", y, 0, 2, 2);
     }
 
     private static void hidingWrong() {
