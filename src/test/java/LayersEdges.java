@@ -133,6 +133,11 @@ final class LayersEdges {
         due(e, "the other thing is as it was", x, at(2, 1), "1223");
         x.window(2, 2);
         due(e, "a thing that is not there", x, at(23, 1), "1223");
+        ChairSmells fades = Edges.house("55o;55u", "92.;90.;93.", 0, 0, 0, 0, 1, 0, 0, 1, 1, 0, 2, 1);
+        fades.window(0, 0);
+        fades.window(0, 1);
+        due(e, "what is left fades as its own smell does", fades, at(2, 0), "05");
+        due(e, "what is left fades as its own smell does", fades, at(2, 1), "23");
         ChairSmells late = Edges.house("55o", "90.", 1, 0, 0);
         late.window(1, 0);
         late.sit(1, 0, 0);

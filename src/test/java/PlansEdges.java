@@ -97,6 +97,8 @@ final class PlansEdges {
         // one who smells as the told one comes anew with little, and is gone by then
         hides(e, "another of the same smell, weaker", Edges.house("55o", "91.;11a", 0, 0, 0), of(0, 1, 2), 1);
         noHide(e, "it may not do so itself", Edges.house("55o", "91.;11a", 0, 0, 0), 1, 1, 2);
+        noHide(e, "nor as the first of two", Edges.house("55o", "91.;11a;90.", 0, 0, 0), 1, 1, 2);
+        noHide(e, "nor as the second of two", Edges.house("55o", "91.;90.;11a", 0, 0, 0), 2, 1, 2);
         hides(e, "who is not there sits for nothing", Edges.house("11o", "90.", 0, 7, 0), of(0, 1, 1));
         hides(e, "no thing tells", Check.house("", "90."), of(0, 23, 23));
     }

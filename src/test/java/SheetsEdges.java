@@ -1,3 +1,5 @@
+import java.util.Random;
+
 /** Promises 30 to 37 and what they lean on: sheets, findings, what is counted, the digest. */
 final class SheetsEdges {
     private static final int NONE = Edges.NONE, BAD = Edges.BAD;
@@ -389,6 +391,10 @@ final class SheetsEdges {
                 e.due("it is no finding", x.count(8), 0);
             }
         }
+        for (int seed = 0; seed < 100; seed++) {
+            ChairSmells x = byChance(new Random(seed));
+            e.due("by chance " + seed, x.digest(), digestOf(x));
+        }
         e.due("of all that there may be", Edges.full().digest(), digestOf(Edges.full()));
         ChairSmells asked = Edges.full();
         asked.digest();
@@ -397,6 +403,17 @@ final class SheetsEdges {
         sheets.lose(0);
         sheets.lose(0);
         e.due("neither sheets nor findings are in it", sheets.digest(), Edges.full().digest());
+    }
+
+    private static ChairSmells byChance(Random random) {
+        ChairSmells x = Check.house("33o;22u;55o", "51.;30.;92.;40b");
+        for (int n = random.nextInt(12); n > 0; n--) {
+            x.sit(random.nextInt(7), random.nextInt(5), random.nextInt(4));
+        }
+        for (int n = random.nextInt(4); n > 0; n--) {
+            x.window(random.nextInt(7), random.nextInt(4));
+        }
+        return x;
     }
 
     /** The digest once more, from the answers of the calls that it names. */

@@ -38,6 +38,13 @@ final class SmeltEdges {
         e.due("just so an hour later", just.who(0), 1);
         just.smelt(1, 0, 1);
         e.due("not just so: one fewer", just.who(0), 0);
+        ChairSmells gone = Edges.house("11o;11o", EIGHT, 0, 0, 1);
+        gone.smelt(0, 1, 0);
+        e.due("a thing with one at it did not tell of nothing", gone.when(0, 0), 0);
+        for (int n = 0; n < 4; n++) {
+            gone.undo(0);
+        }
+        e.due("a thing that is there no more did", gone.when(0, 0), ALL);
         e.says(22, "SMELT more: how many.");
         ChairSmells two = Check.house("11o", EIGHT);
         e.due("the first", two.smelt(3, 0, 1), 1);
@@ -182,6 +189,10 @@ final class SmeltEdges {
         e.due("to the last hour", x.stand(0, 23), 5);
         x.sit(6, 1, 5);
         e.due("covered by the next: all alike, the first", x.stand(0, 6), 0);
+        e.due("of the last sitting", x.stand(1, 6), 5);
+        e.due("of the last sitting, ahead of it", x.stand(1, 5), 0);
+        ChairSmells first = Edges.house("11o;11o", EIGHT, 0, 0, 1);
+        e.due("in the first hour", first.stand(0, 0), 1);
         ChairSmells groups = Edges.house("11o;11o", "90.;90a;90.;90c;90c", 5, 0, 1);
         e.due("three alike at most, not five", groups.stand(0, 5), 1);
         groups.smelt(5, 1, 4);
