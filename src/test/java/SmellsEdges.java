@@ -81,6 +81,8 @@ final class SmellsEdges {
                 + " and behind no HOUR any THING TELLS of just one of them:");
         ChairSmells x = Edges.house("22o;22o", EIGHT, 23, 1, 0, 23, 0, 0);
         e.due("in the last hour alone", x.together(NONE), 1);
+        ChairSmells late = Edges.house("22o", "11.;90.", 23, 0, 0, 23, 1, 0);
+        e.due("there is no hour behind the last, in which one would have faded", late.together(NONE), 1);
         x.sit(0, 7, 1);
         e.due("one alone is no pair", x.together(NONE), 1);
         x.sit(1, 6, 1);
