@@ -28,6 +28,8 @@ public final class ChairSmells {
     private static final int SHEETS = 4;
     private static final int FORMS = 3;
     private static final int MOST_ITEMS = 60;
+    private static final int LEAST_INT = 0x80000000;
+    private static final long LEAST_LONG = 0x8000000000000000L;
     private static final int NULL = 1, INDEX = 2, CAST = 3, STORE = 4, SIZE = 5;
     private static final int[] DIGEST_HOURS = {0, 1, 5, 10, 23};
 
@@ -378,12 +380,12 @@ public final class ChairSmells {
 
     public int get(int s, int form, int i) {
         if (noSheet(s) || noForm(form)) {
-            return Integer.MIN_VALUE;
+            return LEAST_INT;
         }
         int wrong = sheets[s].wrongWith(form, i);
         if (wrong != 0) {
             finding(wrong);
-            return Integer.MIN_VALUE;
+            return LEAST_INT;
         }
         return sheets[s].item(i);
     }
@@ -531,7 +533,7 @@ public final class ChairSmells {
     }
 
     private static long longRefusal(int refusal) {
-        return Long.MIN_VALUE - refusal;
+        return LEAST_LONG - refusal;
     }
 
     private static long power(int base, int times) {
