@@ -5,7 +5,9 @@ import java.lang.reflect.Method;
 import java.lang.reflect.Modifier;
 import java.nio.file.Files;
 import java.nio.file.Path;
+import java.util.ArrayList;
 import java.util.Arrays;
+import java.util.List;
 import java.util.Set;
 import java.util.TreeSet;
 import java.util.regex.Matcher;
@@ -14,22 +16,32 @@ import java.util.regex.Pattern;
 /** The public face as the document lists it, and the rules of LANGUAGE.md that can be seen in the text. */
 public final class FaceTest {
     private static final Check CHECK = new Check();
-    private static final String FACE = "int type(int,int) int wipe(int) int undo(int) int fault(int)"
-            + " int thing(int,int) int person(int,int) int sit(int,int,int) int window(int,int) int back(int)"
-            + " int read(int) int layers(int,int,int) int strong(int,int,int) int tells(int,int) int nowhere(int)"
-            + " int last(int,int) int together(int) int hide(int,int,int,int) int frame(int,int,int,int,int)"
-            + " int air(int,int,int,int) int known(int) int smelt(int,int,int) int forget() int when(int,int)"
-            + " int who(int) int stand(int,int) long draughts(int,int,int,int,int) long found(int,int,int,int)"
-            + " int day(int,int,int) int sheet(int,int,int) int lose(int) int put(int,int,int,int)"
-            + " int get(int,int,int) int copy(int,int,int,int,int) int write(int,int) int count(int) long digest()";
+    private static final Path DOCUMENT = Path.of("../shared/DOC.md");
+    private static final Path SOURCE = Path.of("src/main/java/ChairSmells.java");
+    private static final Set<String> LIBRARY = Set.of("Arrays.fill", "Integer.bitCount", "Long.bitCount", "Math.max",
+            "Math.min", "System.arraycopy");
 
     public static void main(String[] args) throws IOException {
-        face();
-        text(Files.readString(Path.of("src/main/java/ChairSmells.java")));
+        String document = Files.readString(DOCUMENT);
+        String source = Files.readString(SOURCE);
+        face(document);
+        promises(document);
+        ahead(document, source);
+        text(source);
         CHECK.end();
     }
 
-    private static void face() {
+    /** The face between the marks of the document: "public int tells(int hour, int thing);" and its like. */
+    private static List<String> faceCalls(String document) {
+        List<String> calls = new ArrayList<>();
+        Matcher call = Pattern.compile("(?m)^    public ((?:int|long) \\w+\\([^)]*\\));$").matcher(document);
+        while (call.find()) {
+            calls.add(call.group(1));
+        }
+        return calls;
+    }
+
+    private static void face(String document) {
         Class<?> face = ChairSmells.class;
         CHECK.same("public and final", Modifier.toString(face.getModifiers()), "public final");
         Set<String> methods = new TreeSet<>();
@@ -42,7 +54,11 @@ public final class FaceTest {
                 methods.add(method.getReturnType() + " " + method.getName() + "(" + types + ")");
             }
         }
-        Set<String> due = new TreeSet<>(Arrays.asList(FACE.split(" (?=int [a-z]|long [a-z])")));
+        Set<String> due = new TreeSet<>();
+        for (String call : faceCalls(document)) {
+            due.add(call.replaceAll("int \\w+(?=[,)])", "int").replace(" ", "").replaceFirst("^(int|long)", "$1 "));
+        }
+        CHECK.due("calls of the face", due.size(), 36);
         CHECK.same("methods", methods, due);
         Set<String> fields = new TreeSet<>();
         for (Field field : face.getDeclaredFields()) {
@@ -70,6 +86,35 @@ public final class FaceTest {
         CHECK.same("few classes", face.getDeclaredClasses().length <= 11, true);
     }
 
+    /** Each promise behind the first is of one call of the face, in its order. */
+    private static void promises(String document) {
+        List<String> promised = new ArrayList<>();
+        Matcher promise = Pattern.compile("(?m)^## Promise (\\d+): (\\w+)\\R\\R`([^`]*)`:").matcher(document);
+        while (promise.find()) {
+            promised.add(promise.group(3));
+            CHECK.due("promise of " + promise.group(2), Integer.parseInt(promise.group(1)), promised.size() + 1);
+            CHECK.same("promise " + promise.group(1), promise.group(3).contains(" " + promise.group(2) + "("), true);
+        }
+        CHECK.same("promises", promised, faceCalls(document));
+    }
+
+    /** "Ahead of the calls .. the interface says: ----": these lines stand in the class ahead of just these calls. */
+    private static void ahead(String document, String source) {
+        List<String> due = new ArrayList<>();
+        Matcher told = Pattern.compile("(?m)^Ahead of the calls (.*) the interface says: (---- .*)\\.$").matcher(document);
+        while (told.find()) {
+            due.add("// " + told.group(2));
+            due.addAll(Arrays.asList(told.group(1).replace("`", "").split(", ")));
+        }
+        CHECK.due("calls and what stands ahead of them", due.size(), 36 + 5);
+        List<String> stands = new ArrayList<>();
+        Matcher line = Pattern.compile("(?m)^    (?:(// ---- .*)|public (?:int|long) (\\w+)\\(.*)$").matcher(source);
+        while (line.find()) {
+            stands.add(line.group(1) == null ? line.group(2) : line.group(1));
+        }
+        CHECK.same("what stands ahead of the calls", stands.subList(0, Math.min(due.size(), stands.size())), due);
+    }
+
     private static void text(String source) {
         String code = source.replaceAll("(?s)/\\*.*?\\*/", "").replaceAll("//[^\n]*", "");
         String words = "throw|throws|try|catch|finally|synchronized|assert|instanceof|package|protected|volatile|"
@@ -82,6 +127,11 @@ public final class FaceTest {
         while (imports.find()) {
             CHECK.same("imports", imports.group(1), "java.util.Arrays");
         }
+        Matcher library = Pattern.compile("\\b(?:Arrays|Integer|Long|Math|System|String|Character|List)\\.\\w+").matcher(code);
+        while (library.find()) {
+            CHECK.same(library.group() + " is left by the rules", LIBRARY.contains(library.group()), true);
+        }
+        CHECK.same("signs of the source are 10 and 32 to 126", source.matches("[\\n -~]*"), true);
         shortMethods(code);
         noNewInMethods(code);
     }
