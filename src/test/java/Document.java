@@ -23,10 +23,9 @@ final class Document {
         parts.forEach((number, sentences) -> quoted.put(number, new boolean[sentences.length()]));
     }
 
-    /** Without headings, marks, the face of each call and what stands ahead of the first numbered section. */
+    /** Without headings, marks and the face of each call, which FaceTest has. */
     private static String sentences(String section) {
-        int first = section.indexOf("======== 1 ");
-        String body = first >= 0 ? section.substring(first) : section.substring(section.indexOf('\n') + 1);
+        String body = section.substring(section.indexOf('\n') + 1);
         return body.replaceAll("(?m)^Ahead of the calls.*$", " ").replaceAll("(?m)^```(text)?$", " ")
                 .replaceAll("(?m)^`[^`]*`:", " ").replaceAll("======== \\d", " ").replaceAll("\\s+", " ").trim();
     }

@@ -6,6 +6,7 @@ import java.nio.file.Path;
 public final class EdgesTest {
     public static void main(String[] args) throws IOException {
         Edges edges = new Edges(Files.readString(Path.of("../shared/DOC.md")));
+        HeadEdges.all(edges);
         TextsEdges.all(edges);
         SittingsEdges.all(edges);
         LayersEdges.all(edges);
