@@ -749,7 +749,7 @@ public final class ChairSmells {
             if (place == size && size < keeps && size < MOST_LAYERS) {
                 size++;
             }
-            for (int i = Math.min(place, size - 1); i > 0; i--) {
+            for (int i = place < size ? place : size - 1; i > 0; i--) {
                 smells[i] = smells[i - 1];
                 strengths[i] = strengths[i - 1];
                 fasts[i] = fasts[i - 1];
@@ -765,7 +765,9 @@ public final class ChairSmells {
                 strengths[i] = strengths[i + 1];
                 fasts[i] = fasts[i + 1];
             }
-            size = Math.max(size - 1, 0);
+            if (size > 0) {
+                size--;
+            }
         }
     }
 
